@@ -187,6 +187,8 @@ public final class BoardTest {
         x.lamp(3, 4, true);
         Check.due("mend(2)", x.mend(2), 2);
         Check.due("burnt lamps of field 2", x.field(2, 3), 0);
+        Check.due("missing lamps of the 2 in field 2", x.table(2, 2, 2), 0);
+        Check.due("shape of the 0 in field 2", x.table(2, 0, 0), 0);
         Check.due("burnt lamps of field 3", x.field(3, 3), 1);
         for (int lamp = 0; lamp < LAMPS; lamp++) {
             Check.due("hours of lamp " + lamp, x.lampOf(2, lamp, 1), 0);
@@ -232,6 +234,12 @@ public final class BoardTest {
         Check.due("undo()", x.undo(), 3);
         Check.due("burnt by their hours behind undo", x.count(5), 0);
         Check.due("burnt behind undo", x.count(1), 0);
+        x.show(0, 7);
+        x.mend(3);
+        Check.due("pass(200) of two digits", x.pass(200), 8 + 7);
+        Check.due("lamp 0 of the 7", x.lampOf(0, 0, 0), 1);
+        Check.due("hours of lamp 0 of the 7", x.lampOf(0, 0, 1), 200);
+        x.undo();
         x.set(1, 0);
         Check.due("pass(500) without a life", x.pass(500), 0);
     }

@@ -16,6 +16,7 @@ public final class LooksTest {
         lampOfThrows();
         tableOfANewBoard();
         tableTakesTheFewestMissingLamps();
+        tableKnowsTheShapes();
         tableWithoutAShape();
         tableThrows();
         readTakesTheNearestDigit();
@@ -161,6 +162,36 @@ public final class LooksTest {
         x.mend(0);
         x.lamp(0, 1, true);
         dueTable(x, 0, 0, 0, 055557, 1);
+    }
+
+    /** Without the lamps that a shape does not have, it is the one of which none is missing. */
+    private static void tableKnowsTheShapes() {
+        int[][] shapes = {
+            {075557, 025552}, {026227, 022222, 013111}, {071747, 061243}, {071717, 061216},
+            {055711, 045711, 013571}, {074717, 074616, 074712}, {074757, 034757, 024652},
+            {071111, 071122, 071244}, {075757, 025252}, {NONE, 075712, 025316},
+        };
+        for (int digit = 0; digit < DIGITS; digit++) {
+            for (int shape = 0; shape < shapes[digit].length; shape++) {
+                if (shapes[digit][shape] != NONE) {
+                    dueTable(boardWithJust(shapes[digit][shape]), 3, digit, shape, shapes[digit][shape], 0);
+                }
+            }
+        }
+        // there the 8 shows what the first shape of the 9 does, so the 9 has its second one
+        dueTable(boardWithJust(075717), 3, 8, 0, 075717, 1);
+        dueTable(boardWithJust(075717), 3, 9, 1, 075712, 0);
+    }
+
+    private static BulbShapes boardWithJust(int lamps) {
+        BulbShapes x = new BulbShapes();
+        x.set(0, 1);
+        for (int lamp = 0; lamp < LAMPS; lamp++) {
+            if ((lamps >> (LAMPS - 1 - lamp) & 1) == 0) {
+                x.lamp(3, lamp, true);
+            }
+        }
+        return x;
     }
 
     private static void tableWithoutAShape() {

@@ -35,7 +35,6 @@ public final class BulbShapes {
     private static final int LAMPS_READ_FOR_HASH = 21845;
     private static final int ONE_AS_EXPONENT = 1023;
     private static final int MANTISSA_BITS = 52;
-    private static final double MANTISSA_RANGE = 4503599627370496.0;
 
     /** The lamps of the shapes, three a digit. */
     private static final int[] SHAPES = {
@@ -419,7 +418,7 @@ public final class BulbShapes {
             scaled = scaled * 2.0;
             exponent--;
         }
-        long mantissa = (long) ((scaled - 1.0) * MANTISSA_RANGE);
+        long mantissa = (long) ((scaled - 1.0) * (double) (1L << MANTISSA_BITS));
         return ((long) exponent << MANTISSA_BITS) + mantissa;
     }
 

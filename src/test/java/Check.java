@@ -11,8 +11,18 @@ final class Check {
 
     private static int checked = 0;
     private static int wrong = 0;
+    private static String about = "";
 
     private Check() {
+    }
+
+    /** Stands ahead of each wrong answer that is told from now on. */
+    static void about(String words) {
+        about = words;
+    }
+
+    static int answers() {
+        return checked;
     }
 
     static void due(String call, Object got, Object want) {
@@ -20,7 +30,7 @@ final class Check {
         if (!Objects.equals(got, want)) {
             wrong++;
             if (wrong <= MOST_TOLD) {
-                System.out.println(call + " answered " + got + ", due is " + want);
+                System.out.println(about + call + " answered " + got + ", due is " + want);
             }
         }
     }

@@ -1,7 +1,10 @@
+import java.io.IOException;
 import java.lang.reflect.Constructor;
 import java.lang.reflect.Field;
 import java.lang.reflect.Method;
 import java.lang.reflect.Modifier;
+import java.nio.file.Files;
+import java.nio.file.Path;
 import java.util.Set;
 import java.util.TreeSet;
 
@@ -36,11 +39,26 @@ public final class FaceTest {
         "long digest()",
     };
 
-    public static void main(String[] args) {
+    /** By rule 5 of LANGUAGE.md; the arrays are written out in their initialisers. */
+    private static final Set<String> STATIC_TYPES =
+            Set.of("int", "long", "boolean", "char", "String", "int[]", "long[]", "char[]", "byte[]");
+
+    public static void main(String[] args) throws IOException {
+        theDocumentHasThisFace();
         theClassAndItsMembers();
         theMethods();
         theClassesInside();
         Check.end();
+    }
+
+    private static void theDocumentHasThisFace() throws IOException {
+        Set<String> told = new TreeSet<>();
+        for (String line : Files.readAllLines(Path.of("../shared/DOC.md"))) {
+            if (line.matches("    public \\w+ \\w+\\(.*;")) {
+                told.add(line.strip().replaceAll("public |;|throws |(?<=int|boolean) \\w+(?=[,)])|,", ""));
+            }
+        }
+        Check.due("the document's face", told, new TreeSet<>(Set.of(FACE)));
     }
 
     private static void theClassAndItsMembers() {
@@ -51,7 +69,7 @@ public final class FaceTest {
         for (Field field : BulbShapes.class.getDeclaredFields()) {
             String want = field.getName().equals("NONE") ? "public static final" : "private";
             Check.due("field " + field, Modifier.toString(field.getModifiers()).startsWith(want), true);
-            dueStaticIsFinal(field);
+            dueStaticIsAConstant(field);
         }
     }
 
@@ -92,14 +110,17 @@ public final class FaceTest {
             Check.due(inside + " is static", Modifier.isStatic(modifiers), true);
             Check.due(inside + " is closed", Modifier.isPublic(modifiers) || Modifier.isProtected(modifiers), false);
             for (Field field : inside.getDeclaredFields()) {
-                dueStaticIsFinal(field);
+                dueStaticIsAConstant(field);
             }
         }
     }
 
-    private static void dueStaticIsFinal(Field field) {
+    private static void dueStaticIsAConstant(Field field) {
         int modifiers = field.getModifiers();
-        Check.due(field + " is final if it is static",
-                !Modifier.isStatic(modifiers) || Modifier.isFinal(modifiers), true);
+        if (Modifier.isStatic(modifiers)) {
+            Check.due(field + " is final", Modifier.isFinal(modifiers), true);
+            Check.due(field + " is of a type that rule 5 names",
+                    STATIC_TYPES.contains(field.getType().getSimpleName()), true);
+        }
     }
 }

@@ -2,14 +2,18 @@ import java.util.Random;
 
 /** Runs of chosen-by-seed calls, each answered as the plain model of the document answers it. */
 public final class ModelTest {
-    private static final int RUNS = 400;
-    private static final int CALLS = 512;
+    private static final int RUNS = 800;
+    /** What later calls answer is free. */
+    private static final int MOST_CALLS = 512;
+    /** What one turn may need: the longest text that is written, and looks at it. */
+    private static final int CALLS_A_TURN = 32;
     private static final int DIGEST_EACH = 8;
 
     private final Random random;
     private final BulbShapes x = new BulbShapes();
     private final Model model = new Model();
     private final int longestLife;
+    private int calls = 0;
 
     private ModelTest(long seed) {
         random = new Random(seed);
@@ -24,8 +28,8 @@ public final class ModelTest {
     }
 
     private void run(int seed) {
-        for (int i = 0; i < CALLS; i++) {
-            String where = "run " + seed + ", call " + i + ": ";
+        for (int i = 0; calls <= MOST_CALLS - CALLS_A_TURN; i++) {
+            String where = "run " + seed + ", call " + calls + ": ";
             if (random.nextInt(10) < 6) {
                 change(where);
             } else {
@@ -37,7 +41,8 @@ public final class ModelTest {
         }
     }
 
-    private static void compare(String call, Check.Call got, String want) {
+    private void compare(String call, Check.Call got, String want) {
+        calls++;
         Check.due(call, Check.told(got), want);
     }
 

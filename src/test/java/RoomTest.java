@@ -4,7 +4,7 @@ import java.lang.management.ManagementFactory;
 /** What an object needs is made with it: no call of a run makes objects or arrays. */
 public final class RoomTest {
     private static final ThreadMXBean THREADS = (ThreadMXBean) ManagementFactory.getThreadMXBean();
-    private static final int CALLS = 512;
+    private static final int TURNS = 25;
     private static final long ROOM_OF_AN_OBJECT = 20_000;
     /** The machine makes a little by itself while it runs. */
     private static final long ROOM_OF_THE_CALLS = 20_000;
@@ -27,7 +27,7 @@ public final class RoomTest {
 
     private static void run(BulbShapes x) {
         x.set(1, 1);
-        for (int i = 0; i < CALLS; i += 16) {
+        for (int i = 0; i < TURNS; i++) {
             x.mend(2);
             x.mend(3);
             x.number(i % 100);

@@ -1,7 +1,6 @@
-/** Promises 19 to 24: what would be, which changes nothing. */
+/** Promises 19 to 23: what would be, which changes nothing; of promise 24 WouldBeBoundaries tells. */
 public final class WhatWouldBeTest {
     private static final int NONE = BulbShapes.NONE;
-    private static final int FIELDS = 4;
     private static final int LAMPS = 15;
     private static final int DIGITS = 10;
     private static final int[] WRONG_FIELDS = {-1, 4, Integer.MIN_VALUE, Integer.MAX_VALUE};
@@ -19,7 +18,6 @@ public final class WhatWouldBeTest {
         nextBurnTellsTheHours();
         nextBurnIsNone();
         clarityIsAShare();
-        digestIsMadeOfTheWholeState();
         Check.end();
     }
 
@@ -73,12 +71,11 @@ public final class WhatWouldBeTest {
     }
 
     private static void worstLampLeavesMostDigitsHidden() {
-        BulbShapes x = new BulbShapes();
-        Check.due("worstLamp(0) of whole lamps", x.worstLamp(0), 2);
+        Check.due("worstLamp(0) of whole lamps", new BulbShapes().worstLamp(0), 2);
         for (int strictness = 1; strictness <= 5; strictness++) {
-            x.set(0, strictness);
             for (int burnt = -1; burnt < LAMPS; burnt++) {
-                x.mend(1);
+                BulbShapes x = new BulbShapes();
+                x.set(0, strictness);
                 if (burnt >= 0) {
                     x.lamp(1, burnt, true);
                 }
@@ -209,71 +206,5 @@ public final class WhatWouldBeTest {
         Check.due("clarity() without field 0", x.clarity(), 19 / 40.0);
         x.set(0, 2);
         Check.due("clarity() without field 0, setting 0 at 2", x.clarity(), 31 / 40.0);
-    }
-
-    private static void digestIsMadeOfTheWholeState() {
-        BulbShapes x = new BulbShapes();
-        dueDigest(x);
-        x.number(1807);
-        Check.write(x, "0-abc;~");
-        dueDigest(x);
-        x.set(1, 1);
-        x.pass(170);
-        dueDigest(x);
-        x.set(0, 5);
-        x.clearBuffer();
-        dueDigest(x);
-        for (int lamp = 0; lamp < LAMPS; lamp++) {
-            for (int f = 0; f < FIELDS; f++) {
-                x.lamp(f, lamp, true);
-            }
-            dueDigest(x);
-        }
-        Check.write(x, "0+a");
-        dueDigest(x);
-    }
-
-    /** By the calls of the face; the buffer is found by its length alone, so it is told here. */
-    private static void dueDigest(BulbShapes x) {
-        String buffer = bufferOf(x);
-        long hash = 2801;
-        for (int what = 0; what < 8; what++) {
-            hash = 31 * hash + x.count(what);
-        }
-        hash = 31 * hash + x.setting(0);
-        hash = 31 * hash + x.setting(1);
-        for (int f = 0; f < FIELDS; f++) {
-            for (int what = 0; what < 8; what++) {
-                hash = 31 * hash + x.field(f, what);
-            }
-            for (int i = 0; i < 3 * DIGITS; i++) {
-                hash = 31 * hash + x.table(f, i / 3, i % 3);
-            }
-            for (int i = 0; i < 4 * LAMPS; i++) {
-                hash = 31 * hash + x.lampOf(f, i / 4, i % 4);
-            }
-            hash = 31 * hash + x.worstLamp(f);
-            hash = 31 * hash + x.strictest(f);
-            hash = 31 * hash + x.read(f, 21845);
-        }
-        hash = 31 * hash + x.nextBurn();
-        hash = 31 * hash + Double.doubleToLongBits(x.clarity());
-        hash = 31 * hash + buffer.length();
-        for (int i = 0; i < buffer.length(); i++) {
-            hash = 31 * hash + buffer.charAt(i);
-        }
-        Check.due("digest() with the buffer '" + buffer + "'", x.digest(), hash);
-    }
-
-    private static String bufferOf(BulbShapes x) {
-        int length = x.clearBuffer();
-        String[] known = {"", "0+a", "0-abc;~"};
-        for (String buffer : known) {
-            if (buffer.length() == length) {
-                Check.write(x, buffer);
-                return buffer;
-            }
-        }
-        return "?";
     }
 }
